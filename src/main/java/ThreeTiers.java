@@ -886,11 +886,11 @@ public final class ThreeTiers {
             keywords = new long[KEYWORD_COUNT];
             int n = 0;
             for (int i = 0; i < KEYWORDS.length() && n < KEYWORD_COUNT; i++) {
-                int sign = KEYWORDS.charAt(i);
-                if (sign == ' ') {
+                int letter = KEYWORDS.charAt(i);
+                if (letter == ' ') {
                     n++;
                 } else {
-                    keywords[n] = withLetter(keywords[n], sign);
+                    keywords[n] = withLetter(keywords[n], letter);
                 }
             }
             faultPlace = NONE;
@@ -1953,10 +1953,6 @@ public final class ThreeTiers {
         int behind;
         int cuts;
         int difference;
-
-        Grids() {
-            beside = 0;
-        }
 
         /** How many pairs there are for n; the best of them is kept. */
         int search(int columns, int rows, int n) {
