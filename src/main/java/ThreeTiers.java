@@ -1823,6 +1823,7 @@ public final class ThreeTiers {
         private final int[] trial;
         private int waitingSet;
         private int waiting;
+        private int freeSet;
         private boolean orderFound;
         int orderLeast;
         int halfWay;
@@ -1879,37 +1880,42 @@ public final class ThreeTiers {
                     }
                 }
             }
+            freeSet = 0;
+            for (int piece = 0; piece < board.count; piece++) {
+                if (board.isFree(piece)) {
+                    freeSet |= 1 << piece;
+                }
+            }
         }
 
-        private int pickOf(int guest, int taken) {
+        private int pickOf(int guest, int free) {
             int found = NONE;
+            int most = 0;
             for (int piece = 0; piece < board.count; piece++) {
-                if ((taken >> piece & 1) == 0 && board.isFree(piece)) {
-                    if (found == NONE || worthOf(guest, piece) > worthOf(guest, found)) {
+                if ((free >> piece & 1) == 1) {
+                    int worth = worths[guest * MOST_PIECES + piece];
+                    if (found == NONE || worth > most) {
                         found = piece;
+                        most = worth;
                     }
                 }
             }
             return found;
         }
 
-        private int worthOf(int guest, int piece) {
-            return piece == NONE ? 0 : worths[guest * MOST_PIECES + piece];
-        }
-
-        private static int withPiece(int taken, int piece) {
-            return piece == NONE ? taken : taken | 1 << piece;
+        private static int without(int free, int piece) {
+            return piece == NONE ? free : free & ~(1 << piece);
         }
 
         int pickByNumber(int[] picked) {
             prepare();
-            int taken = 0;
+            int free = freeSet;
             for (int guest = 0; guest < recipe.guests && guest < picked.length; guest++) {
                 boolean waits = (waitingSet >> guest & 1) == 1;
-                picked[guest] = waits ? pickOf(guest, taken) : NONE;
-                taken = withPiece(taken, picked[guest]);
+                picked[guest] = waits ? pickOf(guest, free) : NONE;
+                free = without(free, picked[guest]);
             }
-            return Integer.bitCount(taken);
+            return Integer.bitCount(freeSet & ~free);
         }
 
         /** The best order comes into the row; its length. */
@@ -1918,12 +1924,12 @@ public final class ThreeTiers {
             orderFound = false;
             orderLeast = 0;
             if (waiting > 0) {
-                tryOrders(order, 0, waitingSet, 0, Integer.MAX_VALUE);
+                tryOrders(order, 0, waitingSet, freeSet, Integer.MAX_VALUE);
             }
             return waiting;
         }
 
-        private void tryOrders(int[] order, int depth, int waitingYet, int taken, int least) {
+        private void tryOrders(int[] order, int depth, int waitingYet, int free, int least) {
             // What comes later never makes the least greater, and of like orders the first counts.
             if (orderFound && least <= orderLeast || depth > waiting) {
                 return;
@@ -1938,10 +1944,10 @@ public final class ThreeTiers {
             }
             for (int guest = 0; guest < recipe.guests; guest++) {
                 if ((waitingYet >> guest & 1) == 1 && depth < trial.length) {
-                    int piece = pickOf(guest, taken);
+                    int piece = pickOf(guest, free);
+                    int worth = piece == NONE ? 0 : worths[guest * MOST_PIECES + piece];
                     trial[depth] = guest;
-                    tryOrders(order, depth + 1, waitingYet & ~(1 << guest), withPiece(taken, piece),
-                            Math.min(least, worthOf(guest, piece)));
+                    tryOrders(order, depth + 1, waitingYet & ~(1 << guest), without(free, piece), Math.min(least, worth));
                 }
             }
         }
