@@ -182,7 +182,7 @@ public final class ThreeTiers {
     // ---- acts ----
 
     public int cut(int piece, int way, int behind) {
-        if (!board.canSplit(piece, way, behind) || board.count >= MOST_PIECES) {
+        if (!board.canSplit(piece, way, behind)) {
             return NONE;
         }
         acts.perform(Acts.SPLIT, piece, way, behind);
@@ -207,7 +207,7 @@ public final class ThreeTiers {
     }
 
     public int exchange(int guest, int other) {
-        if (!recipe.isGuest(guest) || !recipe.isGuest(other) || guest == other) {
+        if (!areTwoGuests(guest, other)) {
             return NONE;
         }
         if (board.held[guest] == NONE || board.held[other] == NONE) {
@@ -239,8 +239,7 @@ public final class ThreeTiers {
     }
 
     public int next(int what) {
-        // With all numbers given out no cut can be made, so there is no next one.
-        if (board.count >= MOST_PIECES || !serving.findCut()) {
+        if (!serving.findCut()) {
             return NONE;
         }
         switch (what) {
@@ -317,7 +316,7 @@ public final class ThreeTiers {
     // ---- one who cuts, guests who pick ----
 
     public int halve(int piece, int guest, int other, int what) {
-        if (!canHalve(piece, guest, other) || !picking.findHalves(piece, guest, other)) {
+        if (!areTwoGuests(guest, other) || !picking.findHalves(piece, guest, other)) {
             return NONE;
         }
         switch (what) {
@@ -333,14 +332,14 @@ public final class ThreeTiers {
     }
 
     public int share(int piece, int guest, int other) {
-        if (!canHalve(piece, guest, other) || !picking.findHalves(piece, guest, other)) {
+        if (!areTwoGuests(guest, other) || !picking.findHalves(piece, guest, other)) {
             return NO_WORTH;
         }
         return picking.halfWorth;
     }
 
-    private boolean canHalve(int piece, int guest, int other) {
-        return recipe.isGuest(guest) && recipe.isGuest(other) && guest != other && board.isFree(piece);
+    private boolean areTwoGuests(int guest, int other) {
+        return recipe.isGuest(guest) && recipe.isGuest(other) && guest != other;
     }
 
     public int picks() {
@@ -1374,13 +1373,18 @@ public final class ThreeTiers {
             return isPiece(piece) && slabs[piece].plate == NONE;
         }
 
+        /** A cut needs a number for the new piece, so with all of them given out no piece can be cut. */
+        boolean isCuttable(int piece) {
+            return isFree(piece) && count < MOST_PIECES;
+        }
+
         boolean canSplit(int piece, int way, int behind) {
-            return isFree(piece) && (way == COLUMN_WAY || way == ROW_WAY)
+            return isCuttable(piece) && (way == COLUMN_WAY || way == ROW_WAY)
                     && behind >= 1 && behind < slabs[piece].extent(way);
         }
 
         void split(int piece, int way, int behind, int slips, int pace) {
-            if (!canSplit(piece, way, behind) || count >= MOST_PIECES) {
+            if (!canSplit(piece, way, behind)) {
                 return;
             }
             Slab ahead = slabs[piece];
@@ -1758,7 +1762,7 @@ public final class ThreeTiers {
             prepare(0, NONE);
             cutPiece = NONE;
             for (int piece = 0; piece < board.count; piece++) {
-                if (board.isFree(piece)) {
+                if (board.isCuttable(piece)) {
                     int area = recipe.areaOf(board.slabs[piece]);
                     count(area, -1);
                     tryCuts(piece, COLUMN_WAY, area);
@@ -1842,7 +1846,7 @@ public final class ThreeTiers {
         }
 
         boolean findHalves(int piece, int guest, int other) {
-            if (!board.isFree(piece)) {
+            if (!board.isCuttable(piece)) {
                 return false;
             }
             Slab whole = board.slabs[piece];

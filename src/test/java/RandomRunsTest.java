@@ -262,7 +262,7 @@ public final class RandomRunsTest {
     }
 
     private static void halves(ThreeTiers x) {
-        if (x.about(1) < 2 || x.about(2) >= 24) {
+        if (x.about(1) < 2) {
             return;
         }
         for (int piece = 0; piece < x.about(2); piece++) {

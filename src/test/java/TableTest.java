@@ -133,18 +133,29 @@ public final class TableTest {
         x.cut(0, 0, 1);
         DUE.is("worth of a broken one", x.worth(0, 1), 6005);
         DUE.is("worth of the other", x.worth(0, 0), 6000);
-        x = Due.cake("tier a 8 by 4 high 1;slip 17;");
+        x = Due.cake("tier a 8 by 4 high 1;slip 17;guest g wants 1;guest h wants 2;");
         for (int i = 0; i < 3; i++) {
             DUE.is("rows", x.cut(i, 1, 1), i + 1);
         }
         for (int i = 4; i < 24; i++) {
+            DUE.is("slip ahead of " + i, x.slip(3, 0, 1), 17);
+            DUE.is("halve ahead of " + i, x.halve(3, 0, 1, 1), 4);
+            DUE.is("share ahead of " + i, x.share(3, 0, 1), 4);
             int from = i < 11 ? i == 4 ? 0 : i - 1 : i < 18 ? i == 11 ? 1 : i - 1 : i == 18 ? 2 : i - 1;
             DUE.is("cut to " + i, x.cut(from, 0, 1), i);
         }
         DUE.is("cut beyond 24", x.cut(3, 0, 1), -1);
         DUE.is("next beyond 24", x.next(0), -1);
-        // Whether the cut can be is asked apart from how many pieces there are.
-        DUE.is("slip beyond 24", x.slip(3, 0, 1), 17);
+        DUE.is("slip beyond 24", x.slip(3, 0, 1), -1);
+        DUE.is("halve beyond 24", x.halve(3, 0, 1, 0), -1);
+        DUE.is("share beyond 24", x.share(3, 0, 1), -1000000000);
+        DUE.is("undo", x.undo(), true);
+        DUE.is("slip at 23", x.slip(3, 0, 1), 17);
+        DUE.is("halve at 23", x.halve(3, 0, 1, 1), 4);
+        DUE.is("share at 23", x.share(3, 0, 1), 4);
+        DUE.is("next at 23", x.next(0), 3);
+        DUE.is("redo", x.redo(), true);
+        DUE.is("halve at 24 again", x.halve(3, 0, 1, 1), -1);
     }
 
     private static void breaking() {
