@@ -1818,6 +1818,8 @@ public final class ThreeTiers {
 
     /** One who cuts and one who picks; guests who pick in turn. */
     private static final class Picking {
+        private static final int MOST_WORTH = 2147483647;
+
         private final Recipe recipe;
         private final Board board;
         private final Taste taste;
@@ -1928,7 +1930,7 @@ public final class ThreeTiers {
             orderFound = false;
             orderLeast = 0;
             if (waiting > 0) {
-                tryOrders(order, 0, waitingSet, freeSet, Integer.MAX_VALUE);
+                tryOrders(order, 0, waitingSet, freeSet, MOST_WORTH);
             }
             return waiting;
         }

@@ -12,6 +12,7 @@ final class ActEdges {
         cutWays();
         cutBounds();
         cutNewPiece();
+        cutOnNoPlate();
         cutBroken();
         cutSeed();
         cutBreaksBelow();
@@ -30,6 +31,8 @@ final class ActEdges {
         redoNone();
         redoTillAnotherAct();
         fortyKept();
+        oldestGo();
+        areActs();
         refusedIsNoAct();
     }
 
@@ -57,14 +60,15 @@ final class ActEdges {
 
     private static void slipFacts() {
         DUE.sentence(0, "by area, icing, broken (of the PIECE as it was), sweet 0, long (how many CELLS the CUT goes along), minute");
-        String[] words = {"area", "icing", "broken*7", "sweet", "long", "minute"};
+        String[] words = {"area", "icing", "broken*7", "sweet+3", "long", "minute"};
         // 4 by 2, high 3, broken, two cuts of 5 minutes ago; by columns and by rows.
-        int[] columns = {24, 10, 7, 0, 2, 10};
-        int[] rows = {24, 10, 7, 0, 4, 10};
+        int[] columns = {24, 10, 7, 3, 2, 10};
+        int[] rows = {24, 10, 7, 3, 4, 10};
         for (int i = 0; i < words.length; i++) {
             ThreeTiers x = Due.cake("tier a 8 by 2 high 3;guest g wants 1 sweet 9;slip (minute<6)*100+(minute>9)*(" + words[i] + ");pace 5;");
             x.cut(0, 0, 4);
             x.cut(0, 1, 1);
+            DUE.is("worth to one of sweet 9", x.worth(0, 1), 24);
             DUE.is(words[i] + " by columns", x.slip(1, 0, 1), columns[i]);
             DUE.is(words[i] + " by columns, further", x.slip(1, 0, 3), columns[i]);
             DUE.is(words[i] + " by rows", x.slip(1, 1, 1), rows[i]);
@@ -142,6 +146,39 @@ final class ActEdges {
         ThreeTiers y = Due.cake("tier a 8 by 4 high 1;tier b 8 by 1 high 1;");
         for (int i = 2; i < 9; i++) {
             DUE.is("cut " + i, y.cut(i == 2 ? 0 : i - 1, 0, 1), i);
+        }
+    }
+
+    private static void cutOnNoPlate() {
+        DUE.sentence(0, "A CUT of a PIECE that is on no plate");
+        ThreeTiers x = Due.cake("tier a 4 by 1 high 1;tier b 4 by 1 high 1;guest g wants 1;");
+        x.give(0, 0);
+        DUE.is("on a plate", x.cut(0, 0, 1), -1);
+        DUE.is("another one", x.cut(1, 0, 1), 2);
+        x.back(0);
+        DUE.is("taken back", x.cut(0, 0, 1), 3);
+        x.give(3, 0);
+        DUE.is("the new one on a plate", x.cut(3, 0, 1), -1);
+        x.undo();
+        DUE.is("undone", x.cut(3, 0, 1), 4);
+    }
+
+    private static void areActs() {
+        for (int promise = 10; promise <= 13; promise++) {
+            DUE.sentence(promise, "(An ACT.)");
+            ThreeTiers x = plain();
+            for (int i = 0; i < 4; i++) {
+                act(x, i);
+            }
+            String before = Due.table(x);
+            int done = promise == 10 ? x.cut(0, 0, 1) : promise == 11 ? x.back(1) + x.give(0, 1) : promise == 12 ? x.back(1) : x.exchange(0, 1);
+            DUE.is("done", done > 0, true);
+            int acts = promise == 11 ? 2 : 1;
+            DUE.is("more acts", x.about(6), 4 + acts);
+            for (int i = 0; i < acts; i++) {
+                DUE.is("undo()", x.undo(), true);
+            }
+            DUE.same("the table", Due.table(x), before);
         }
     }
 
@@ -344,7 +381,7 @@ final class ActEdges {
             case 2: x.give(1, 0); break;
             case 3: x.give(2, 1); break;
             case 4: x.exchange(1, 0); break;
-            case 5: x.back(1); break;
+            case 5: x.back(0); break;
             default: x.cut(0, 1, 1);
         }
     }
@@ -375,6 +412,19 @@ final class ActEdges {
         DUE.unchanged(x, () -> DUE.is("all undone", x.undo(), false));
         x.redo();
         DUE.is("done again", x.undo(), true);
+        DUE.sentence(0, "UNDO takes back the latest ACT that was not");
+        ThreeTiers y = plain();
+        y.cut(0, 0, 1);
+        y.cut(1, 0, 1);
+        y.cut(2, 0, 1);
+        y.undo();
+        y.undo();
+        DUE.is("two of three are taken back", y.about(2), 2);
+        y.cut(1, 1, 1);
+        y.undo();
+        y.undo();
+        DUE.is("then the one behind them and the first", y.about(2), 1);
+        DUE.is("no other is left", y.undo(), false);
     }
 
     private static void redoLast() {
@@ -451,6 +501,64 @@ final class ActEdges {
         x.undo();
         x.undo();
         DUE.row("the latest two undone", guest -> x.guest(guest, 3), -1, -1);
+    }
+
+    /** The i-th of many acts of all kinds, each unlike those beside it, so that a wrong one undone is seen. */
+    private static int actOfMany(ThreeTiers x, int i) {
+        int round = i / 12;
+        switch (i % 12) {
+            case 4: return x.give(round, 0);
+            case 5: return x.give(round + 1, 1);
+            case 6: return x.exchange(0, 1);
+            case 7: return x.give(round + 3, 2);
+            case 8: return x.exchange(1, 2);
+            case 9:
+            case 10:
+            case 11: return x.back(i % 12 - 9);
+            default: return cutOfMany(x, round * 4 + i % 12);
+        }
+    }
+
+    /** The first tier is cut eight times, always what lies behind, then the second one. */
+    private static int cutOfMany(ThreeTiers x, int n) {
+        int[] behind = {1, 2, 2, 1};
+        return x.cut(n % 8 == 0 ? n / 8 : n + 1, n % 2, behind[n % 4]);
+    }
+
+    private static ThreeTiers manyActs(int acts) {
+        ThreeTiers x = Due.cake("tier a 8 by 8 high 1;tier b 8 by 8 high 1;guest f wants 1;guest g wants 1;guest h wants 1;slip 40;draw 9;pace 7;");
+        for (int i = 0; i < acts; i++) {
+            DUE.is("act " + i + " is done", actOfMany(x, i) >= 0, true);
+        }
+        return x;
+    }
+
+    private static String looks(ThreeTiers x) {
+        return x.about(3) + " " + x.about(4) + " " + x.iced(5) + " " + x.guest(0, 3) + " " + x.guest(1, 3) + " " + x.guest(2, 3);
+    }
+
+    private static void oldestGo() {
+        DUE.sentence(0, "40 at most are kept, the oldest go.");
+        String[] due = new String[46];
+        for (int acts = 0; acts <= 45; acts++) {
+            due[acts] = looks(manyActs(acts));
+        }
+        ThreeTiers x = manyActs(45);
+        DUE.is("kept", x.about(6), 40);
+        for (int i = 44; i >= 5; i--) {
+            DUE.is("undo of " + i, x.undo(), true);
+            DUE.same("looks", looks(x), due[i]);
+        }
+        DUE.is("the oldest are gone", x.undo(), false);
+        ThreeTiers y = manyActs(45);
+        for (int i = 0; i < 40; i++) {
+            y.undo();
+        }
+        for (int i = 6; i <= 45; i++) {
+            DUE.is("redo of " + i, y.redo(), true);
+            DUE.same("looks", looks(y), due[i]);
+        }
+        DUE.is("all are done again", y.redo(), false);
     }
 
     private static void refusedIsNoAct() {

@@ -11,9 +11,11 @@ final class PickingEdges {
         halveNoCut();
         halveRefuses();
         halveOtherWhat();
+        shareLeft();
         shareNone();
         picksLikeFirst();
         picksNoneLeft();
+        picksWithout();
         picksLie();
         orderMost();
         orderFirst();
@@ -95,6 +97,15 @@ final class PickingEdges {
         DUE.all("halve", -1, what -> x.halve(0, 0, 1, what), -1, 3, 4, LEAST, MOST);
     }
 
+    private static void shareLeft() {
+        DUE.sentence(23, "What HALVE leaves the first one is WORTH to him");
+        // To the second one nothing is worth anything, so he takes what lies ahead.
+        ThreeTiers x = Due.cake("tier a 5 by 1 high 2;guest g wants 1 sweet 3;guest h wants 1;worth area*sweet;");
+        DUE.is("to the first one", x.share(0, 0, 1), 24);
+        DUE.is("to the other one", x.share(0, 1, 0), 0);
+        DUE.is("the least int", Due.cake("tier a 2 by 1 high 1;guest g wants 1;guest h wants 1;worth 8192*8192*32;").share(0, 0, 1), LEAST);
+    }
+
     private static void shareNone() {
         DUE.sentence(23, "-1000000000 if there is none");
         ThreeTiers x = Due.cake("tier a 4 by 1 high 9;tier b 1 by 1 high 1;guest g wants 1;guest h wants 1;");
@@ -136,6 +147,21 @@ final class PickingEdges {
         DUE.row("lies", z::lies, -1, -1, -2);
         DUE.is("order of no pieces", z.order(), 0);
         DUE.row("lies", z::lies, 0, 1, -2);
+    }
+
+    private static void picksWithout() {
+        DUE.sentence(0, "PICKS in an order of all GUESTS without a PIECE");
+        ThreeTiers x = Due.cake("tier a 1 by 1 high 5;tier b 1 by 1 high 7;guest f wants 1;guest g wants 1;guest h wants 1;");
+        x.give(0, 1);
+        DUE.is("picks", x.picks(), 1);
+        DUE.row("who has a piece picks none", x::lies, 1, -1, -1, -2);
+        x.give(1, 0);
+        DUE.is("picks", x.picks(), 0);
+        x.give(1, 2);
+        x.back(0);
+        x.back(1);
+        DUE.is("picks", x.picks(), 2);
+        DUE.row("lies", x::lies, 1, 0, -1, -2);
     }
 
     private static void picksLie() {
@@ -198,6 +224,8 @@ final class PickingEdges {
         DUE.is("the most", Due.cake("tier a 1 by 1 high 1;guest g wants 1;worth 8192*8192*32-1;").order(), MOST);
         ThreeTiers x = Due.cake("tier a 1 by 1 high 1;tier b 1 by 1 high 2;guest f wants 1;guest g wants 1;worth 0-area;");
         DUE.is("below 0", x.order(), -2);
+        DUE.row("lies", x::lies, 0, 1, -2);
+        DUE.is("below 0 again", x.order(), -2);
         DUE.row("lies", x::lies, 0, 1, -2);
         ThreeTiers y = Due.cake("tier a 1 by 1 high 1;tier b 1 by 1 high 2;guest f wants 1;guest g wants 1;worth area+minute;");
         String before = Due.table(y);

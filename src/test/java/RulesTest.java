@@ -131,12 +131,12 @@ public final class RulesTest {
         long before = bean.getThreadAllocatedBytes(id);
         sum += callAll(x) + x.cake();
         long made = bean.getThreadAllocatedBytes(id) - before;
-        DUE.is("bytes made by 500 calls: " + made + " (" + sum + ")", made < 1024, true);
+        DUE.is("bytes made by 231 calls: " + made + " (" + sum + ")", made < 1024, true);
     }
 
     private static int callAll(ThreeTiers x) {
         int sum = 0;
-        for (int i = 0; i < 500; i++) {
+        for (int i = 0; i < 230; i++) {
             sum += AnyCall.make(x, i % AnyCall.CALLS, i % 7, i % 3, i % 5, 0);
         }
         return sum;

@@ -16,6 +16,7 @@ final class SeenEdges {
         laterRefuses();
         countsAtK();
         fitsAll();
+        wasOrWasNot();
         fitsFirstTier();
         fitsNone();
         sureSame();
@@ -215,6 +216,30 @@ final class SeenEdges {
         DUE.is("none", x.fits(0), 0);
     }
 
+    private static void wasOrWasNot() {
+        DUE.sentence(0, "that there was a PIECE of so many CELLS, or was not; that there was one of so much ICING, or was not.");
+        // Of 4 by 2: 8, 4, 4, 2, 2 and 1 cells.
+        int[] cells = {1, 2, 3, 4, 5, 8, 64};
+        int[] with = {1, 2, 0, 2, 0, 1, 0};
+        // ICING 12; 6 and 6; 3; 4 and 2; 2 and 1.
+        int[] icings = {0, 1, 2, 3, 4, 5, 6, 12, 32};
+        int[] having = {0, 1, 2, 1, 1, 0, 2, 1, 0};
+        for (int i = 0; i < cells.length; i++) {
+            DUE.is("was of " + cells[i], fitsWith(true, cells[i], true), with[i]);
+            DUE.is("was not of " + cells[i], fitsWith(true, cells[i], false), 6 - with[i]);
+        }
+        for (int i = 0; i < icings.length; i++) {
+            DUE.is("was of ICING " + icings[i], fitsWith(false, icings[i], true), having[i]);
+            DUE.is("was not of ICING " + icings[i], fitsWith(false, icings[i], false), 6 - having[i]);
+        }
+    }
+
+    private static int fitsWith(boolean sized, int number, boolean is) {
+        ThreeTiers x = Due.cake("tier a 4 by 2 high 3;");
+        DUE.is("told", sized ? x.sized(number, is) : x.rimmed(number, is), 0);
+        return x.fits(0);
+    }
+
     private static void fitsFirstTier() {
         DUE.sentence(0, "of a cake like the first TIER, cut long ago into like PIECES, p by q");
         ThreeTiers x = Due.cake("tier a 1 by 1 high 3;tier b 8 by 8 high 1;");
@@ -231,6 +256,12 @@ final class SeenEdges {
         DUE.sentence(42, "FITS: how many (0 without TIERS)");
         DUE.all("of nothing", 0, new ThreeTiers()::fits, 0, 1, -1, LEAST, MOST);
         DUE.is("guests alone", Due.cake("guest g wants 1;").fits(0), 0);
+        // Nothing is left of the tiers of a cake before.
+        ThreeTiers gone = Due.cake("tier a 2 by 2 high 1;");
+        gone.cake();
+        DUE.is("without tiers again", gone.fits(0), 0);
+        DUE.is("sure", gone.sure(0, 0), -1);
+        DUE.is("ask", gone.ask(0, 0), -1);
         ThreeTiers x = Due.cake("tier a 2 by 2 high 1;");
         x.sized(3, true);
         DUE.is("none", x.fits(0), 0);

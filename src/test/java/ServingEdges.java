@@ -63,6 +63,8 @@ final class ServingEdges {
         DUE.is("with two less", x.served(), 1);
         x.exchange(0, 3);
         DUE.is("plates alone count", x.served(), 1);
+        // In whatever order they are told.
+        DUE.is("those who want much first", Due.cake("tier a 2 by 2 high 1;tier b 2 by 2 high 1;tier c 3 by 3 high 1;guest f wants 9;guest g wants 5;guest h wants 4;guest i wants 1;").served(), 3);
         DUE.is("one piece serves one", Due.cake("tier a 8 by 8 high 9;guest f wants 1;guest g wants 1;").served(), 1);
     }
 
@@ -92,6 +94,18 @@ final class ServingEdges {
         DUE.row("next, though it serves fewer", z::next, 0, 0, 1, 0);
         z.give(0, 0);
         DUE.row("next on no plate", z::next, -1, -1, -1, -1);
+        // Each CUT by itself: what others would bring is not there.
+        ThreeTiers v = Due.cake("tier a 3 by 1 high 1;guest f wants 1;guest g wants 1;guest h wants 1;");
+        DUE.row("one cut of three", v::next, 0, 0, 1, 2);
+        ThreeTiers w = Due.cake("tier a 2 by 1 high 1;tier b 2 by 1 high 1;guest f wants 1;guest g wants 1;guest h wants 1;guest i wants 1;");
+        DUE.row("one cut of two", w::next, 0, 0, 1, 3);
+        ThreeTiers t = Due.cake("tier a 4 by 1 high 2;guest f wants 3;guest g wants 4;");
+        DUE.row("the second cut", t::next, 0, 0, 2, 2);
+        ThreeTiers s = Due.cake("tier a 2 by 5 high 1;guest f wants 6;guest g wants 2;");
+        DUE.row("a cut by rows", s::next, 0, 1, 1, 2);
+        // The whole is there no more when it is cut.
+        ThreeTiers u = Due.cake("tier a 2 by 1 high 1;tier b 1 by 2 high 1;guest f wants 2;guest g wants 2;guest h wants 1;");
+        DUE.row("the whole is gone", u::next, 0, 0, 1, 2);
     }
 
     private static void nextFirst() {
@@ -228,6 +242,10 @@ final class ServingEdges {
         ThreeTiers y = plates("guest f wants 1;guest g wants 1 sweet 1;guest h wants 1;", 2, 0, 3);
         DUE.row("calm", y::calm, 1, 2, 1);
         DUE.row("pieces stay", guest -> y.guest(guest, 3), 2, 0, 3);
+        // One without a piece has nothing to be envied for, though what others have is less than 0 to them.
+        ThreeTiers z = plates("guest f wants 1 sweet 1;guest g wants 1;guest h wants 1 sweet 1;", 0, 3, -1);
+        DUE.is("quarrel", z.quarrel(), 2);
+        DUE.row("calm", z::calm, 0, 1, 0);
     }
 
     private static void calmFirst() {
@@ -280,6 +298,22 @@ final class ServingEdges {
         // Only one can be served, whoever it is.
         ThreeTiers y = Due.cake("tier a 3 by 3 high 1;guest g wants 3;guest h wants 9;guest i wants 0;");
         DUE.row("room", y::room, 6, 0, 9);
+        // Pieces are tried one by one, each with all others there.
+        DUE.is("the greater one first", Due.cake("tier a 3 by 3 high 1;tier b 2 by 2 high 1;guest g wants 3;").room(0), 6);
+        DUE.is("the greater one last", Due.cake("tier a 2 by 2 high 1;tier b 3 by 3 high 1;guest g wants 3;").room(0), 6);
+        ThreeTiers z = Due.cake("tier a 2 by 2 high 1;tier b 5 by 1 high 1;guest g wants 3;guest h wants 3;");
+        DUE.row("room of two", z::room, 2, 2);
+        ThreeTiers w = Due.cake("tier a 2 by 2 high 1;tier b 5 by 1 high 1;guest g wants 3;guest h wants 3;guest i wants 3;");
+        DUE.row("room of three", w::room, 2, 2, 2);
+        // Who is all but fed is not SERVED.
+        ThreeTiers v = Due.cake("tier a 2 by 2 high 1;tier b 2 by 2 high 1;guest g wants 5;guest h wants 2;");
+        DUE.row("room", v::room, -1, 2);
+        v.give(1, 0);
+        DUE.row("room", v::room, -1, 2);
+        // What is on a plate is no room.
+        ThreeTiers u = Due.cake("tier a 2 by 2 high 1;tier b 3 by 3 high 1;guest g wants 3;guest h wants 1;");
+        u.give(1, 1);
+        DUE.row("room", u::room, 1, -1);
         DUE.is("room of who wants 999", Due.cake("tier a 8 by 8 high 9;guest g wants 999;").room(0), -1);
         DUE.is("room of who wants 0", Due.cake("tier a 8 by 8 high 9;guest g wants 0;").room(0), 576);
     }

@@ -25,6 +25,7 @@ final class TableEdges {
         restoreRefuses();
         aboutAll();
         aboutRefuses();
+        lastCall();
     }
 
     private static void firstPieces() {
@@ -63,6 +64,10 @@ final class TableEdges {
         DUE.row("plate", piece -> x.piece(piece, 8), 1, 0);
         x.back(1);
         DUE.row("plate", piece -> x.piece(piece, 8), -1, 0);
+        DUE.sentence(0, "it is BROKEN or not (not at first)");
+        ThreeTiers whole = Due.cake("tier a 2 by 1 high 1;tier b 2 by 1 high 1;slip 100;");
+        DUE.row("broken", piece -> whole.piece(piece, 7), 0, 0);
+        DUE.is("broken pieces", whole.about(5), 0);
         DUE.sentence(6, "7: 1 if it is BROKEN, else 0");
         ThreeTiers y = Due.cake("tier a 2 by 1 high 1;slip 100;");
         y.cut(0, 0, 1);
@@ -316,6 +321,15 @@ final class TableEdges {
         x.end(19);
         // Seeds 304, 719, 574, 709: the first, second and fourth break.
         DUE.row("about", x::about, 2, 3, 6, 16, 709, 4 + 8 + 32, 5, 2, 2, 77, 19, 3, 2);
+    }
+
+    private static void lastCall() {
+        DUE.sentence(0, "An object is used for at most 512 calls after it has been made");
+        ThreeTiers x = new ThreeTiers();
+        for (int i = 1; i <= 511; i++) {
+            DUE.is("call " + i, x.later(1), i);
+        }
+        DUE.is("the 512th", x.about(9), 511);
     }
 
     private static void aboutRefuses() {

@@ -40,6 +40,8 @@ final class TextEdges {
         theEnd();
         leastAtOnePlace();
         nameAgain();
+        numbersThatCantBe();
+        tierLine();
         guestLine();
     }
 
@@ -67,6 +69,8 @@ final class TextEdges {
         DUE.is("restore(0)", x.restore(0), -1);
         DUE.is("lies(0)", x.lies(0), -2);
         DUE.is("cake()", x.cake(), 0);
+        DUE.sentence(0, "`NONE = -1`: There is none.");
+        DUE.is("NONE", ThreeTiers.NONE, -1);
     }
 
     private static void feedOrder() {
@@ -150,6 +154,8 @@ final class TextEdges {
         x.later(9);
         x.cut(0, 0, 1);
         x.give(1, 1);
+        x.cut(0, 1, 2);
+        x.give(2, 0);
         x.cut(0, 1, 1);
         x.undo();
         x.sized(3, true);
@@ -163,13 +169,15 @@ final class TextEdges {
     private static void cakeBeginsAnew() {
         DUE.sentence(4, "(all as told, minute 0, no ACTS are kept, nothing is SEEN, nothing lies there, BOXES are empty then; the TIME stays)");
         ThreeTiers x = busy();
-        DUE.row("about ahead of it", x::about, 1, 2, 2, 3, 30, 2, 2, 1, 1, 9, 0, 2, 2);
-        DUE.is("cake()", Due.tell(x, "tier b 3 by 1 high 1;guest k wants 2;guest g wants 3;"), 1);
-        DUE.row("about", x::about, 1, 2, 1, 0, 0, 0, 0, 0, 0, 9, 0, 0, 0);
+        DUE.row("about ahead of it", x::about, 1, 2, 3, 6, 181, 6, 4, 1, 1, 9, 0, 2, 2);
+        DUE.is("cake()", Due.tell(x, "tier b 3 by 1 high 1;tier c 1 by 2 high 1;tier d 2 by 2 high 2;guest k wants 2;guest g wants 3;"), 3);
+        DUE.row("about", x::about, 3, 2, 3, 0, 0, 0, 0, 0, 0, 9, 0, 0, 0);
         DUE.row("piece 0", what -> x.piece(0, what), 0, 0, 0, 3, 1, 3, 8, 0, -1);
+        DUE.row("piece 1", what -> x.piece(1, what), 1, 0, 0, 1, 2, 2, 6, 0, -1);
+        DUE.row("piece 2", what -> x.piece(2, what), 2, 0, 0, 2, 2, 8, 8, 0, -1);
         DUE.row("guest 0", what -> x.guest(0, what), 2, 0, 100, -1, 0);
         DUE.row("guest 1", what -> x.guest(1, what), 3, 0, 100, -1, 0);
-        DUE.is("piece(1, 0)", x.piece(1, 0), -2);
+        DUE.is("piece(3, 0)", x.piece(3, 0), -2);
         DUE.is("worth is AREA again", x.worth(0, 0), 3);
         DUE.is("slip is 0 again", x.slip(0, 0, 1), 0);
         DUE.is("fits(100)", x.fits(100), 2);
@@ -191,13 +199,13 @@ final class TextEdges {
                 DUE.is("cake of " + text, Due.tell(x, text), -1);
             }
         });
-        DUE.row("guest 0", what -> x.guest(0, what), 1, 9, 9, -1, 0);
+        DUE.row("guest 0", what -> x.guest(0, what), 1, 9, 9, 2, 5);
         DUE.is("worth stays", x.worth(0, 0), 5);
         DUE.is("slip stays", x.slip(0, 1, 1), 100);
         DUE.is("redo()", x.redo(), true);
-        DUE.is("the pace stays", x.about(3), 6);
+        DUE.is("the pace stays", x.about(3), 9);
         for (int box = 0; box < 3; box++) {
-            DUE.is("restore", x.restore(box), 2);
+            DUE.is("restore", x.restore(box), 3);
         }
     }
 
@@ -469,6 +477,11 @@ final class TextEdges {
             faultAt(all + "\n" + word + " 1;", 2, all.length() + 1);
             faultAt(word + " 1;" + word + " 1;", 2, word.length() + 3);
         }
+        // What was told of a cake before, sound or not, is told anew in the next one.
+        ThreeTiers x = new ThreeTiers();
+        for (String end : new String[] {"", "$", "", "draw 1;", ""}) {
+            DUE.is("once in each cake", Due.tell(x, all + end), end.isEmpty() ? 0 : -1);
+        }
         DUE.sentence(0, "(one of a sort too many or a second time: at the line's first word;");
         faultAt("pace 1;  pace 99;", 2, 9);
         faultAt("worth 1;\nworth $", 2, 9);
@@ -530,6 +543,44 @@ final class TextEdges {
         DUE.is("told anew", Due.tell(x, "tier a 1 by 1 high 1;"), 1);
         DUE.is("told in a faulty one", Due.tell(x, "tier b 1 by 1 high 1;$"), -1);
         DUE.is("told anew", Due.tell(x, "tier b 1 by 1 high 1;"), 1);
+    }
+
+    private static void numbersThatCantBe() {
+        DUE.sentence(0, "4 a number that can't be.");
+        String[] ahead = {"tier a ", "tier a 1 by ", "tier a 1 by 1 high ", "guest a wants ", "guest a wants 1 sweet ",
+            "guest a wants 1 comes ", "guest a wants 1 sweet 1 comes ", "pace ", "draw "};
+        int[] least = {1, 1, 1, 0, 0, 0, 0, 0, 0};
+        int[] most = {8, 8, 9, 999, 9, 100, 100, 60, 999};
+        for (int i = 0; i < ahead.length; i++) {
+            for (int number : new int[] {0, 1, most[i] - 1, most[i], most[i] + 1, 9999}) {
+                boolean can = number >= least[i] && number <= most[i];
+                // What comes behind the number is missing, so a number that can be is not the fault.
+                String text = ahead[i] + number;
+                faultAt(text, can ? 2 : 4, can ? text.length() : ahead[i].length());
+            }
+        }
+        sound("worth 9999;slip 0;");
+    }
+
+    private static void tierLine() {
+        DUE.sentence(0, "tier NAME N by N high N ;");
+        sound("tier a 1 by 2 high 3;");
+        faultAt("tier 1 by 2 high 3;", 2, 5);
+        faultAt("tier a by 2 high 3;", 2, 7);
+        faultAt("tier a 1 2 high 3;", 2, 9);
+        faultAt("tier a 1 high 3;", 2, 9);
+        faultAt("tier a 1 by high 3;", 2, 12);
+        faultAt("tier a 1 by 2 3;", 2, 14);
+        faultAt("tier a 1 by 2;", 2, 13);
+        faultAt("tier a 1 by 2 high;", 2, 18);
+        faultAt("tier a 1 by 2 high 3 4;", 2, 21);
+        faultAt("tier a 1 by 2 high 3 tier", 2, 21);
+        DUE.sentence(0, "pace N ; | draw N ;.");
+        faultAt("pace;", 2, 4);
+        faultAt("draw;", 2, 4);
+        faultAt("pace a;", 2, 5);
+        faultAt("draw 1 2;", 2, 7);
+        faultAt("pace 1 draw 2;", 2, 7);
     }
 
     private static void guestLine() {
