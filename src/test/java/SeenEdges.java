@@ -307,6 +307,7 @@ final class SeenEdges {
         ThreeTiers y = Due.cake("tier a 8 by 8 high 1;");
         y.rimmed(32, true);
         DUE.row("one is left", what -> y.ask(what, 0), 0, 1);
+        DUE.row("of all sixteen half have some of ICING 2", what -> y.ask(what, -1), 2, 8);
         ThreeTiers z = Due.cake("tier a 4 by 2 high 3;");
         z.sized(2, true);
         DUE.row("ask", what -> z.ask(what, 0), 2, 1);

@@ -19,6 +19,7 @@ final class ServingEdges {
         enviesRefuses();
         quarrels();
         calmFewest();
+        calmWithout();
         calmFirst();
         calmNone();
         calmOtherWhat();
@@ -65,6 +66,7 @@ final class ServingEdges {
         DUE.is("plates alone count", x.served(), 1);
         // In whatever order they are told.
         DUE.is("those who want much first", Due.cake("tier a 2 by 2 high 1;tier b 2 by 2 high 1;tier c 3 by 3 high 1;guest f wants 9;guest g wants 5;guest h wants 4;guest i wants 1;").served(), 3);
+        DUE.is("the one in the middle last", Due.cake("tier a 1 by 1 high 1;tier b 5 by 1 high 1;tier c 3 by 3 high 1;guest f wants 1;guest g wants 9;guest h wants 5;").served(), 3);
         DUE.is("one piece serves one", Due.cake("tier a 8 by 8 high 9;guest f wants 1;guest g wants 1;").served(), 1);
     }
 
@@ -246,6 +248,30 @@ final class ServingEdges {
         ThreeTiers z = plates("guest f wants 1 sweet 1;guest g wants 1;guest h wants 1 sweet 1;", 0, 3, -1);
         DUE.is("quarrel", z.quarrel(), 2);
         DUE.row("calm", z::calm, 0, 1, 0);
+    }
+
+    private static void calmWithout() {
+        DUE.sentence(0, "by whose exchange fewest ENVIES are left");
+        // To one without a piece all is worth 1, and he envies; to another one 0, and he does not.
+        ThreeTiers x = Due.cake("tier a 4 by 1 high 1;tier b 1 by 1 high 1;worth (sweet<2)*area*(1-sweet*2)+(sweet=2);"
+                + "guest f wants 1 sweet 1;guest g wants 1;guest h wants 1 sweet 2;guest i wants 1 sweet 3;");
+        x.give(0, 0);
+        x.give(1, 1);
+        DUE.is("quarrel", x.quarrel(), 4);
+        DUE.row("calm", x::calm, 0, 1, 2);
+        // Six guests, all with pieces, the last of whom likes little and has much.
+        ThreeTiers y = Due.cake("tier a 6 by 1 high 1;tier b 5 by 1 high 1;tier c 4 by 1 high 1;worth area*(1-sweet*2);"
+                + TextEdges.sixGuests().replace("wants 6", "wants 6 sweet 1"));
+        y.cut(2, 0, 3);
+        y.cut(0, 0, 4);
+        y.cut(1, 0, 4);
+        // Pieces of 4, 4, 3, 1, 2 and 1 cells; the last guest has the first of them.
+        for (int guest = 0; guest < 6; guest++) {
+            y.give(guest == 5 ? 0 : guest + 1, guest);
+        }
+        // Each envies those who have more: 0, 2, 4, 3 and 4; the last one those who have less: 4.
+        DUE.is("quarrel", y.quarrel(), 17);
+        DUE.row("calm", y::calm, 2, 5, 9);
     }
 
     private static void calmFirst() {

@@ -151,6 +151,9 @@ final class TableEdges {
         DUE.is("where(1, 8, 7)", x.where(1, 8, 7), -1);
         DUE.is("where(1, 7, 8)", x.where(1, 7, 8), -1);
         DUE.is("of nothing", new ThreeTiers().where(0, 0, 0), -1);
+        DUE.is("with 24 pieces", ActEdges.full().where(0, 8, 0), -1);
+        Due.tell(x, "tier a 3 by 2 high 2;");
+        DUE.is("a tier that was once", x.where(1, 0, 0), -1);
     }
 
     private static void leftOver() {

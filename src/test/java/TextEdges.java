@@ -120,6 +120,19 @@ final class TextEdges {
         DUE.is("about(10)", x.about(10), 33);
         DUE.is("cake()", x.cake(), 0);
         DUE.is("draw 5", x.about(4), 5);
+        // A word and a number end where the TAPE does, whatever was behind them.
+        Due.tape(x, "pace 12;");
+        x.end(6);
+        x.cake();
+        DUE.row("fault of a number cut off", x::fault, 2, 6);
+        Due.tape(x, "pace 1;pacea");
+        x.end(11);
+        x.cake();
+        DUE.row("fault of a word cut off", x::fault, 2, 7);
+        Due.tape(x, "tier tiers");
+        x.end(9);
+        x.cake();
+        DUE.row("fault of a name cut off", x::fault, 2, 5);
         Due.tape(x, "$");
         DUE.is("end(0)", x.end(0), 0);
         DUE.is("about(10)", x.about(10), 0);
@@ -150,7 +163,7 @@ final class TextEdges {
 
     /** A table on which all that a cake takes away can be seen. */
     private static ThreeTiers busy() {
-        ThreeTiers x = Due.cake("tier a 4 by 4 high 2;guest g wants 1 sweet 9 comes 9;guest h wants 2;worth 5;slip 100;draw 7;pace 3;");
+        ThreeTiers x = Due.cake("tier a 4 by 4 high 2;guest g wants 1 sweet 9 comes 9;guest h wants 2;worth not 0;slip 100;draw 7;pace 3;");
         x.later(9);
         x.cut(0, 0, 1);
         x.give(1, 1);
@@ -199,8 +212,8 @@ final class TextEdges {
                 DUE.is("cake of " + text, Due.tell(x, text), -1);
             }
         });
-        DUE.row("guest 0", what -> x.guest(0, what), 1, 9, 9, 2, 5);
-        DUE.is("worth stays", x.worth(0, 0), 5);
+        DUE.row("guest 0", what -> x.guest(0, what), 1, 9, 9, 2, 1);
+        DUE.is("worth stays", x.worth(0, 0), 1);
         DUE.is("slip stays", x.slip(0, 1, 1), 100);
         DUE.is("redo()", x.redo(), true);
         DUE.is("the pace stays", x.about(3), 9);
